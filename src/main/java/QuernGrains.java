@@ -23,7 +23,6 @@ public final class QuernGrains {
     private static final int MOST_BLIND = 200;
     private static final int MOST_KEPT = 2;
     private static final int BAD_LEAN = -1000;
-    private static final String FIRST_TEXT = "g100,0,0,0;f0,0,1,0;";
 
     private final Text text = new Text();
     private final Scribe scribe = new Scribe();
@@ -39,11 +38,7 @@ public final class QuernGrains {
         for (int i = 0; i < MOST_KEPT; i++) {
             kept[i] = new Finds();
         }
-        for (int i = 0; i < FIRST_TEXT.length(); i++) {
-            text.put(FIRST_TEXT.charAt(i));
-        }
-        scribe.placeOfFault(text, laid);
-        text.clear();
+        laid.beAsAtFirst();
     }
 
     // ---- stones
@@ -503,6 +498,14 @@ public final class QuernGrains {
             Arrays.fill(hours, 0);
         }
 
+        /** On a new one: g100,0,0,0;f0,0,1,0; */
+        void beAsAtFirst() {
+            waves[0][0] = 100;
+            sorts = 1;
+            area[0] = 1;
+            patches = 1;
+        }
+
         boolean hasSort(int s) {
             return s >= 0 && s < sorts;
         }
@@ -922,6 +925,7 @@ public final class QuernGrains {
         private final int[] low = new int[STEP_SETS];
         private final int[] high = new int[STEP_SETS];
         private final int[] sums = new int[STEP_SETS];
+        private int boundSteps;
         int fits;
         int leastSum;
         int greatestSum;
@@ -948,11 +952,13 @@ public final class QuernGrains {
                     }
                 }
             }
+            noteFreeSteps(asked);
         }
 
         private void boundSums(Quern quern, Finds finds, int s, int e) {
             Arrays.fill(low, 0);
             Arrays.fill(high, GREATEST_SUM);
+            boundSteps = 0;
             for (int f = 0; f < quern.patches; f++) {
                 if (quern.kind[f] == CONTROL && finds.isRead(f)) {
                     boundSum(quern.steps[f], quern.area[f], finds.counts[f][s], e);
@@ -971,6 +977,13 @@ public final class QuernGrains {
             }
             low[set] = Math.max(low[set], least);
             high[set] = Math.min(high[set], greatest);
+            if (least > 0 || greatest < GREATEST_N * Integer.bitCount(set)) {
+                boundSteps |= set;
+            }
+        }
+
+        private boolean isFree(int step) {
+            return (boundSteps >> step & 1) == 0;
         }
 
         private int leastOf(int step) {
@@ -982,7 +995,11 @@ public final class QuernGrains {
             return least;
         }
 
+        /** 0 of a free step: its other N are all noted at the end, so that they are not walked. */
         private int greatestOf(int step) {
+            if (isFree(step)) {
+                return 0;
+            }
             int bit = 1 << step;
             int greatest = GREATEST_N;
             for (int ahead = 0; ahead < bit; ahead++) {
@@ -1008,6 +1025,15 @@ public final class QuernGrains {
             int rest = sums[asked & ~bit];
             leastSum = Math.min(leastSum, withLast ? rest + least : rest);
             greatestSum = Math.max(greatestSum, withLast ? rest + greatest : rest);
+        }
+
+        private void noteFreeSteps(int asked) {
+            for (int step = 0; step < STEPS; step++) {
+                if (isFree(step)) {
+                    fits *= GREATEST_N + 1;
+                    greatestSum += (asked >> step & 1) * GREATEST_N;
+                }
+            }
         }
     }
 }

@@ -115,6 +115,7 @@ public final class PromisesTest {
         faultOf("g100,0,0,0,0;", 0);
         faultOf("g100,0,0,0,", 0);
         faultOf("g100,0,0,;", 0);
+        faultOf("f0,0,1,;;", 0);
         faultOf("g,100,0,0;", 0);
         faultOf("g0100,0,0,0;", 0);
         faultOf("g100,00,000,0;", NONE);
@@ -146,7 +147,7 @@ public final class PromisesTest {
         faultOf(G + F + "u1,0,1;" + F, 20);
         faultOf(G + F + "u0,1,1;" + G, 20);
         faultOf(F + "u0,0,1;" + G, 9);
-        faultOf(G + "b3,0,9;", NONE);
+        faultOf(G + "b3,0,9;b3,0,0;", NONE);
         faultOf(G + "b4,0,9;", 11);
         faultOf(G + "b3,1,9;", 11);
         faultOf(G + "b3,0,10;", 11);
@@ -158,7 +159,7 @@ public final class PromisesTest {
         faultOf("t4,1,0;", 0);
         faultOf("t0,100,0;", 0);
         faultOf("t0,1,2;", 0);
-        faultOf(G + G + "x0,1,99;x1,0,99;", NONE);
+        faultOf(G + G + "x0,1,99;x1,0,99;x0,1,0;", NONE);
         faultOf(G + G + "x0,1,100;", 22);
         faultOf(G + G + "x0,0,1;", 22);
         faultOf(G + G + "x0,2,1;", 22);
@@ -166,6 +167,8 @@ public final class PromisesTest {
         faultOf(G + "x0,1,1;" + G, 11);
         faultOf(times(G, 3) + "x0,1,50;x0,2,50;", NONE);
         faultOf(times(G, 3) + "x0,1,50;x0,2,51;", 41);
+        faultOf(times(G, 3) + "x1,0,50;x1,2,51;", 41);
+        faultOf(times(G, 3) + "x2,1,50;x2,0,51;", 41);
         faultOf(times(G, 3) + "x0,1,99;x0,1,1;x0,2,99;", NONE);
         faultOf(times(G, 3) + "x0,1,60;x0,2,40;x0,1,61;", 49);
         faultOf(times(G, 3) + "x0,1,60;x1,2,60;x2,0,60;", NONE);
@@ -216,6 +219,24 @@ public final class PromisesTest {
         due("lies(0, 0, -1)", q.lies(0, 0, -1), 60);
         due("read(0, 1, 0)", q.read(0, 1, 0), 60);
         due("lay() once more", q.lay(), 1);
+        // what is laid is not touched by faults of later texts
+        q.wipe();
+        write(q, G + F + F + "u0,0,3;");
+        due("fault()", q.fault(), NONE);
+        due("size(0)", q.size(0), 2);
+        due("size(1)", q.size(1), 1);
+        due("lies(0, 0, -1)", q.lies(0, 0, -1), 60);
+        q.count(0, 0, 9);
+        due("lay()", q.lay(), 2);
+        due("count(0, 0, 0)", q.count(0, 0, 0), 0);
+        q = laid(G + F + "t0,9,1;t1,9,1;t2,9,1;t3,9,1;b0,0,1;");
+        due("leave(0, 0)", q.leave(0, 0), 0);
+        for (int again = 0; again < 2; again++) {
+            q.wipe();
+            write(q, G + F + "b0,0,1;");
+            due("lay()", q.lay(), 1);
+            due("leave(0, 0), no step must be now", q.leave(0, 0), 1);
+        }
     }
 
     private static void face() {
@@ -335,6 +356,9 @@ public final class PromisesTest {
         // 0.9 to the 12 is above 1 by 4 and below 1 by 3
         due("says(9, 1, 3)", q.says(9, 1, 3), 11);
         due("says(9, 1, 4)", q.says(9, 1, 4), NONE);
+        // 11 by 9 to the 12 is 11.1, to the 13 it is 13.6
+        due("says(9, 2, 11)", q.says(9, 2, 11), 12);
+        due("says(9, 2, 12)", q.says(9, 2, 12), NONE);
         due("says(0, 1, 1)", q.says(0, 1, 1), BAD);
         due("says(10, 1, 1)", q.says(10, 1, 1), BAD);
         due("says(1, 0, 1)", q.says(1, 0, 1), BAD);
@@ -722,6 +746,10 @@ public final class PromisesTest {
         q.count(0, 0, 1);
         due("next(), all are read", q.next(), NONE);
         due("next() without worn ones", laid(G + "f0,1,1,0;f0,2,1,0;f0,3,1,0;").next(), NONE);
+        q = laid(G + "f1,3,1,0;f0,0,1,0;f1,0,1,0;");
+        due("next()", q.next(), 1);
+        q.count(0, 0, 1);
+        due("next()", q.next(), 2);
         // worn ones that are read add no area
         q = laid(G + "f0,0,1,0;f1,0,9,0;f1,0,1,0;");
         q.count(1, 0, 1);
@@ -787,6 +815,55 @@ public final class PromisesTest {
         due("size(2)", q.size(2), 52);
     }
 
+    /** As many sorts, patches, counts as there may be: all rows are used to their ends. */
+    private static void fullest() {
+        StringBuilder text = new StringBuilder();
+        for (int s = 0; s < 6; s++) {
+            text.append("g").append(10 * s).append(",").append(50 - 10 * s).append(",0,50;");
+        }
+        for (int f = 0; f < 10; f++) {
+            text.append("f7,").append(f == 9 ? 0 : 3).append(",9,15;");
+        }
+        for (int s = 0; s < 6; s++) {
+            text.append("u9,").append(s).append(",60;").append("b3,").append(s).append(",9;");
+        }
+        QuernGrains q = laid(text + "x5,4,99;x4,5,99;w3,50;t3,99,0;");
+        for (int f = 0; f < 10; f++) {
+            for (int s = 0; s < 6; s++) {
+                due("count(" + f + ", " + s + ", 99)", q.count(f, s, 99), 0);
+            }
+        }
+        due("lies(9, 5, -1)", q.lies(9, 5, -1), 111);
+        due("read(9, 9999, 0)", q.read(9, 9999, 0), 111);
+        due("read(9, 0, 4) and (9, 0, 5)", q.read(9, 0, 4) + q.read(9, 0, 5), 222);
+        due("heap(5, 0, 0, 0, 8, 1)", q.heap(5, 0, 0, 0, 8, 1), 6);
+        due("most(8, 0, 0, 0)", q.most(8, 0, 0, 0), 5);
+        due("shares(5, 4, 0, 0, 0, 6)", q.shares(5, 4, 0, 0, 0, 6), 0);
+        due("kin(20, 5)", q.kin(20, 5), 0);
+        due("kin(19, -1)", q.kin(19, -1), 6);
+        due("cooked(5, 100, 4)", q.cooked(5, 100, 4), 0);
+        // rows of 11 together: 364, less 16 with an N above 9
+        due("books(5, 0, -1, true)", q.books(5, 0, -1, true), 348);
+        due("ground(9, 5, 0, true)", q.ground(9, 5, 0, true), 0);
+        due("ground(9, 5, 9, true)", q.ground(9, 5, 9, true), 9);
+        due("sure(9, 0)", q.sure(9, 0), 0);
+        due("leave(99, 0)", q.leave(99, 0), 8);
+        due("leave(0, 1)", q.leave(0, 1), 0);
+        due("next()", q.next(), NONE);
+        due("size(5)", q.size(5), 10);
+        due("blind(5, 5)", q.blind(5, 5), 1);
+        due("lean(5)", q.lean(5), 0);
+        due("keep()", q.keep(), 1);
+        q.count(9, 5, 0);
+        due("next()", q.next(), NONE);
+        due("back()", q.back(), 0);
+        due("count(9, 5, 0)", q.count(9, 5, 0), 99);
+        due("lay()", q.lay(), 10);
+        due("count(9, 5, 0)", q.count(9, 5, 0), 0);
+        due("next()", q.next(), NONE);
+        due("lean(5)", q.lean(5), 0);
+    }
+
     private static void askFirstHalf() {
         promise = 1; newObject();
         promise = 2; write();
@@ -819,6 +896,7 @@ public final class PromisesTest {
         promise = 28; next();
         promise = 29; keepAndBack();
         promise = 31; size();
+        promise = 5; fullest();
         System.out.println(wrong == 0 ? asked + " answers are as due" : wrong + " answers are not as due");
         if (wrong != 0) {
             System.exit(1);
