@@ -82,6 +82,9 @@ public final class EdgesTest {
         edge(reader(3), "read(0, #, 1)", 0, 1, 9999, 0);
         edge(reader(4), "read(0, #, 1)", 0, 1, 9999, 1);
         edge(reader(0), "read(0, #, 0)", 0, 1, 9999, 1);
+        // the last one of both counts
+        String[] twice = {"text:g100,0,0,0;g100,0,0,0;f0,0,1,0;u0,0,1;x0,1,99;x0,1,3;", "lay()"};
+        edge(twice, "read(0, #, 1)", 0, 1, 9999, 0);
         edge(reader(99), "read(0, 0, #)", 0, 0, 1, 1);
         edge(FIRST, "read(#, 0, 0)", 0, 0, 0, 0);
         edge(FIRST, "read(0, 9999, #)", 0, 0, 0, 0);
@@ -202,6 +205,49 @@ public final class EdgesTest {
         inside(hours, "leave(397, 0)", NONE);
     }
 
+    /** One control, of which v was counted, and a worn patch with 99. */
+    private static String[] oneControl(int area, int steps, int v) {
+        return new String[] {"text:g100,0,0,0;f0,3," + area + "," + steps + ";f0,0,1,15;", "lay()",
+            "count(0, 0, " + v + ")", "count(1, 0, 99)"};
+    }
+
+    /** Each N is 0 to 9, so that four of them are 0 to 36 together. */
+    private static void books() {
+        inside(oneControl(1, 15, 36), "books(0, 0, -1, true)", 1);
+        inside(oneControl(1, 15, 36), "books(0, 0, 0, false)", 9);
+        inside(oneControl(1, 15, 36), "ground(1, 0, 0, true)", 63);
+        inside(oneControl(1, 15, 36), "ground(1, 0, 0, false)", 63);
+        inside(oneControl(1, 15, 37), "books(0, 0, -1, true)", 0);
+        inside(oneControl(1, 15, 37), "books(0, 0, 3, true)", NONE);
+        inside(oneControl(1, 15, 37), "books(0, 1, -1, true)", 1);
+        inside(oneControl(1, 15, 99), "books(0, 62, -1, true)", 0);
+        inside(oneControl(1, 15, 99), "books(0, 63, -1, true)", 1);
+        inside(oneControl(1, 15, 0), "books(0, 0, -1, true)", 1);
+        inside(oneControl(1, 15, 0), "books(0, 0, 3, true)", 0);
+        inside(oneControl(1, 15, 0), "ground(1, 0, 0, false)", 99);
+        inside(oneControl(1, 15, 0), "books(0, 35, -1, true)", 9999);
+        inside(oneControl(1, 15, 0), "books(0, 36, -1, true)", 10000);
+        inside(oneControl(9, 8, 81), "books(0, 0, 3, false)", 9);
+        inside(oneControl(9, 8, 82), "books(0, 0, 3, false)", NONE);
+        inside(oneControl(9, 8, 90), "books(0, 8, -1, false)", 0);
+        inside(oneControl(9, 8, 90), "books(0, 9, -1, false)", 1000);
+        // 9 N are 5 to 95: only N 0 does not fit
+        inside(oneControl(9, 1, 50), "books(0, 45, -1, true)", 9000);
+        inside(oneControl(9, 1, 50), "books(0, 45, 0, false)", 1);
+        // two N are 14 at most together: of 100 rows 10 do not fit
+        inside(oneControl(1, 3, 7), "books(0, 7, -1, true)", 9000);
+        // a control that went through no step bears 0 by each book
+        inside(oneControl(9, 0, 0), "books(0, 0, -1, true)", 10000);
+        inside(oneControl(9, 0, 1), "books(0, 0, -1, true)", 0);
+        inside(oneControl(9, 0, 99), "books(0, 98, -1, true)", 0);
+        inside(oneControl(9, 0, 99), "books(0, 99, -1, true)", 10000);
+        // step 1 has 2, steps 1 and 2 have 5 together: step 2 has 3
+        String[] two = {"text:g100,0,0,0;f0,3,1,2;f0,3,1,6;", "lay()", "count(0, 0, 2)", "count(1, 0, 5)"};
+        inside(two, "books(0, 0, -1, true)", 100);
+        inside(two, "books(0, 0, 2, false)", 3);
+        inside(two, "books(0, 0, 2, true)", 3);
+    }
+
     private static void readers() {
         edge(WIDE, "blind(#, 5)", 0, 3, 5, 4);
         edge(WIDE, "blind(5, #)", 0, 2, 5, 4);
@@ -235,6 +281,7 @@ public final class EdgesTest {
         heaps();
         mixes();
         counts();
+        books();
         readers();
         Due.end();
     }

@@ -67,6 +67,9 @@ public final class FaceTest {
         check(constants.equals(new TreeSet<>(Arrays.asList("BAD", "NO", "FULL", "NONE"))), "the constants: " + constants);
         for (Class<?> inside : c.getDeclaredClasses()) {
             check(Modifier.isStatic(inside.getModifiers()), inside + " is static");
+            for (Method m : inside.getDeclaredMethods()) {
+                check(!openNames.contains(m.getName()), m + " has a name of its own");
+            }
         }
         check(c.getDeclaredClasses().length <= 12, "twelve classes at most");
     }
