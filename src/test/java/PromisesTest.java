@@ -583,6 +583,11 @@ public final class PromisesTest {
         due("ground(0, 0, 2, true)", q.ground(0, 0, 2, true), 32);
         due("ground(1, 0, 0, true), on a control", q.ground(1, 0, 0, true), 0);
         due("ground(1, 0, 2, true)", q.ground(1, 0, 2, true), 2);
+        // the controls are READ, though only of sort 0: of sort 1 their COUNTS are 0, so nothing came by the book
+        q.count(0, 1, 5);
+        due("ground(0, 1, 0, false)", q.ground(0, 1, 0, false), 5);
+        due("ground(0, 1, 1, false), N 1 at step 1 fits", q.ground(0, 1, 1, false), 1);
+        due("books(1, 0, -1, true)", q.books(1, 0, -1, true), 100);
         q.count(2, 0, 10);
         due("ground(0, 0, 0, true)", q.ground(0, 0, 0, true), NONE);
         due("ground(0, 0, 0, false)", q.ground(0, 0, 0, false), NONE);
@@ -864,6 +869,21 @@ public final class PromisesTest {
         due("lean(5)", q.lean(5), 0);
     }
 
+    /** The run that README.md shows. */
+    private static void readme() {
+        QuernGrains q = laid("g60,30,10,0;f0,0,4,3;f0,3,2,3;u0,0,20;b0,0,2;");
+        due("lies(0, 0, -1)", q.lies(0, 0, -1), 28);
+        due("count(1, 0, 4)", q.count(1, 0, 4), 0);
+        due("count(0, 0, 28)", q.count(0, 0, 28), 0);
+        due("books(0, 0, -1, false)", q.books(0, 0, -1, false), 300);
+        due("ground(0, 0, 0, false)", q.ground(0, 0, 0, false), 20);
+        due("sure(0, 0)", q.sure(0, 0), 1);
+        due("keep()", q.keep(), 1);
+        due("count(1, 0, 99)", q.count(1, 0, 99), 4);
+        due("ground(0, 0, 0, false)", q.ground(0, 0, 0, false), NONE);
+        due("back()", q.back(), 0);
+    }
+
     private static void askFirstHalf() {
         promise = 1; newObject();
         promise = 2; write();
@@ -897,6 +917,7 @@ public final class PromisesTest {
         promise = 29; keepAndBack();
         promise = 31; size();
         promise = 5; fullest();
+        promise = 19; readme();
         System.out.println(wrong == 0 ? asked + " answers are as due" : wrong + " answers are not as due");
         if (wrong != 0) {
             System.exit(1);

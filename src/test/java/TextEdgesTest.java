@@ -75,6 +75,20 @@ public final class TextEdgesTest {
         }
     }
 
+    /** A number has one to three figures, whatever the first one is; zeros ahead do not change it. */
+    private static void zerosAhead() {
+        Probe probe = written("g007,03,90,000;g000,000,000,100;f007,003,09,015;u000,01,060;b03,001,009;w003,050;t000,009,000;t003,09,001;x001,000,02;");
+        Due.is("lay()", probe.ask("lay()"), 1);
+        String[] calls = {"cooked(0, 0, 0)", "cooked(0, 0, 1)", "cooked(0, 0, 2)", "cooked(0, 0, 3)", "face(0, 0)", "face(0, 1)", "face(0, 2)",
+            "face(0, 3)", "lies(0, 1, 4)", "lies(0, 1, 3)", "leave(9, 0)", "leave(10, 0)"};
+        int[] dues = {7, 3, 90, 0, 7, 3, 9, 15, 30, 81, 1, NONE};
+        for (int i = 0; i < calls.length; i++) {
+            Due.is(calls[i], probe.ask(calls[i]), dues[i]);
+        }
+        faultAt(0, "w0000,0;");
+        faultAt(0, "w0,0099;");
+    }
+
     private static void limits() {
         for (int n = 0; n <= 6; n++) {
             sound(G.repeat(n));
@@ -132,6 +146,10 @@ public final class TextEdgesTest {
         sound(AHEAD + "x0,1,99;x0,1,0;x0,2,99;");
         faultAt(at + 16, AHEAD + "x0,1,99;x0,1,98;x0,2,3;");
         sound(AHEAD + "x0,1,99;x0,1,98;x0,2,2;");
+        // the first item by which they are above 100 is the fault, though a later one would lower them
+        faultAt(at + 8, AHEAD + "x0,1,60;x0,2,60;x0,1,1;");
+        faultAt(at + 8, AHEAD + "x0,1,60;x0,2,60;x0,2,1;");
+        sound(AHEAD + "x0,1,60;x0,1,1;x0,2,60;");
         // of six sorts one is called each of the others
         String six = G.repeat(6);
         sound(six + "x5,0,20;x5,1,20;x5,2,20;x5,3,20;x5,4,20;");
@@ -230,6 +248,7 @@ public final class TextEdgesTest {
     public static void main(String[] args) {
         numbers();
         greatestAreLaid();
+        zerosAhead();
         limits();
         toldAhead();
         slipsTogether();
